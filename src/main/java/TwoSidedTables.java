@@ -7,6 +7,7 @@ public final class TwoSidedTables {
     private static final int NOTHING = -11, OUTSIDE = -12, OF_OTHER_SORT = -13;
     private static final int BELOW_0 = -14, PARTED_BY_0 = -15, NO_NUMBER = -16;
     private static final long FAR = 4000000000000000000L;
+    private static final long LOWEST = 1L << 63;
 
     private static final int A = 0, B = 1, C = 2;
     private static final int PLAIN = 0, LEFT = 1, ALIKE = 2, TURNED = 3, LEVEL = 4, EVEN = 5, ODD = 6;
@@ -614,7 +615,7 @@ public final class TwoSidedTables {
         if (below == 0 || divisor == 0) {
             return far(PARTED_BY_0);
         }
-        if (divisor == -1 && (above == Long.MIN_VALUE || below == Long.MIN_VALUE)) {
+        if (divisor == -1 && (above == LOWEST || below == LOWEST)) {
             return far(NO_NUMBER);
         }
         return (part == 0 ? above : below) / divisor;
@@ -696,7 +697,7 @@ public final class TwoSidedTables {
     }
 
     private static boolean isInt(long v) {
-        return v >= Integer.MIN_VALUE && v <= Integer.MAX_VALUE;
+        return v == (int) v;
     }
 
     /** Why a sheet can't be read as an X, or 0. */

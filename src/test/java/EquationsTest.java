@@ -183,6 +183,27 @@ final class EquationsTest {
         Due.is("base", x.base(0, 1, 0, 0, 0), -3);
         Due.is("base", x.base(0, 1, 0, 0, 1), 2);
         Due.is("base", x.base(0, 1, 1, 0, 0), 1);
+        // of a level one: A X - X A is 0 if A has nothing off the diagonal
+        x = Due.told(3, 3, "a 1 0 0,0 2 0,0 0 3;");
+        x.equation(4, 0);
+        for (int u = 0; u < 3; u++) {
+            for (int place = 0; place < 9; place++) {
+                Due.is("base of level", x.base(0, u, place / 3, place % 3, 0), place == 4 * u ? 1 : 0);
+                Due.is("base of level", x.base(0, u, place / 3, place % 3, 1), 1);
+            }
+        }
+        // of an even one both entries
+        x = Due.told(2, 2, "a 0 1,-1 0;");
+        x.equation(5, 0);
+        Due.is("free of even", x.of(0, 5), 4);
+        Due.is("base of even", x.base(0, 2, 0, 0, 0), 1);
+        Due.is("base of even", x.base(0, 2, 1, 0, 0), 0);
+        x = Due.told(2, 2, "a -2 0,0 2;");
+        x.equation(5, 0);
+        Due.is("free of even", x.of(0, 5), 2);
+        Due.is("base of even", x.base(0, 1, 0, 1, 0), 1);
+        Due.is("base of even", x.base(0, 1, 1, 0, 0), 1);
+        Due.is("base of even", x.base(0, 1, 1, 1, 0), 0);
         // of an odd one both entries
         x = Due.told(2, 2, "a 1 2,3 -1;");
         x.equation(6, 0);

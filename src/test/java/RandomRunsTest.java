@@ -14,10 +14,13 @@ final class RandomRunsTest {
     private final Oracle y = new Oracle();
     /** How often tables get entries that make many equations have no or many solutions. */
     private final boolean isPlainRun;
+    /** Whether entries are as far from 0 as may be, where numbers grow most. */
+    private final boolean isFarRun;
 
     private RandomRunsTest(int run) {
         random = new Random(run);
         isPlainRun = run % 3 == 0;
+        isFarRun = run % 5 == 1;
     }
 
     public static void main(String[] args) {
@@ -124,6 +127,9 @@ final class RandomRunsTest {
         for (int table = 0; table < 3; table++) {
             for (int place = 0; place < 9; place++) {
                 int v = random.nextInt(isPlainRun ? 3 : 2) == 0 ? random.nextInt(2 * most + 1) - most : 0;
+                if (isFarRun) {
+                    v = (random.nextInt(8) - random.nextInt(2) >= 4 ? 5 : -5) * (table == 2 ? 10 : 1);
+                }
                 Due.is(call + "set", x.set(table, place / 3, place % 3, v), y.set(table, place / 3, place % 3, v));
             }
         }
@@ -138,7 +144,7 @@ final class RandomRunsTest {
                 tell(call);
                 break;
             case 2:
-                if (random.nextInt(4) == 0) {
+                if (isFarRun || random.nextInt(4) == 0) {
                     entries(call);
                 }
                 break;
@@ -260,6 +266,9 @@ final class RandomRunsTest {
             String at = "(" + e + ", " + i + ", " + j + ")";
             Due.is(call + "solution" + at, x.solution(e, i, j, place % 2), y.solution(e, i, j, place % 2));
             Due.is(call + "witness" + at, x.witness(e, i, j, place % 2), y.witness(e, i, j, place % 2));
+            for (int u = 0; u < 6; u++) {
+                Due.is(call + "base " + u + at, x.base(e, u, i, j, place % 2), y.base(e, u, i, j, place % 2));
+            }
         }
     }
 
