@@ -59,6 +59,13 @@ final class Due {
         return x;
     }
 
+    /** The same with one EQUATION, number 0. */
+    static TwoSidedTables one(int m, int n, String text, int kind, int shift) {
+        TwoSidedTables x = told(m, n, text);
+        x.equation(kind, shift);
+        return x;
+    }
+
     static void row(TwoSidedTables x, int sheet, int... items) {
         x.sheet(sheet, 2, items.length);
         for (int i = 0; i < items.length; i++) {
